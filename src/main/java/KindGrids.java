@@ -195,7 +195,16 @@ public final class KindGrids {
 
     public int plan() {
         int steps = text.parse();
-        return tally(steps < 0 ? steps : carryOutAll(steps));
+        undo.copyFrom(store);
+        for (int step = 0; step < steps; step++) {
+            int answer = carryOut(step);
+            if (answer < 0) {
+                store.copyFrom(undo);
+                notes.first = step;
+                return tally(answer);
+            }
+        }
+        return steps;
     }
 
     public int least(int a, int b) {
@@ -301,19 +310,6 @@ public final class KindGrids {
         return kept;
     }
 
-    private int carryOutAll(int steps) {
-        undo.copyFrom(store);
-        for (int step = 0; step < steps; step++) {
-            int answer = carryOut(step);
-            if (answer < 0) {
-                store.copyFrom(undo);
-                notes.first = step;
-                return answer;
-            }
-        }
-        return steps;
-    }
-
     /** Goes round tally(): an error of a step is counted once, for the plan. */
     private int carryOut(int step) {
         int a = text.numberOf(step, 0);
@@ -385,7 +381,7 @@ public final class KindGrids {
     }
 
     private static boolean takes(int kind, int sort) {
-        return isKind(kind) && isSort(sort) && (TAKEN[kind] >> sort & 1) == 1;
+        return kind >= 0 && kind < KINDS && sort >= 0 && sort < SORTS && (TAKEN[kind] >> sort & 1) == 1;
     }
 
     /** Tells whether the cells of rows of a kind can be read as a plain kind. */
@@ -469,7 +465,7 @@ public final class KindGrids {
         void begin(int newKind, int newLength) {
             kind = newKind;
             length = newLength;
-            Arrays.fill(sorts, isPlain(newKind) ? newKind : NOTHING);
+            Arrays.fill(sorts, newKind < OBJECT ? newKind : NOTHING);
             Arrays.fill(whole, 0L);
             Arrays.fill(real, 0.0);
         }
@@ -582,7 +578,7 @@ public final class KindGrids {
         }
 
         boolean hasPlace(int g, int p) {
-            return isGrid(g) && p >= 0 && p < places[g];
+            return g >= 0 && g < GRIDS && p >= 0 && p < places[g];
         }
 
         /** The row of a place, null if there is none. */
@@ -628,14 +624,10 @@ public final class KindGrids {
             return NONE;
         }
 
-        boolean isHeld(int number) {
-            return firstHolder(number) != NONE;
-        }
-
         /** A new row, which no place holds yet. It must be placed before the next one is asked for. */
         Row freshRow(int kind, int length) {
             int number = 0;
-            while (number < POOL - 1 && isHeld(number)) {
+            while (number < POOL - 1 && firstHolder(number) != NONE) {
                 number++;
             }
             pool[number].begin(kind, length);
@@ -659,7 +651,6 @@ public final class KindGrids {
         /** Puts the new grid in the place of another one. */
         int finishGrid(int h) {
             places[h] = places[SPARE];
-            places[SPARE] = -1;
             for (int p = 0; p < PLACES; p++) {
                 held[h * PLACES + p] = held[SPARE * PLACES + p];
                 held[SPARE * PLACES + p] = -EMPTY;
@@ -853,7 +844,7 @@ public final class KindGrids {
         int rowsOfKind(int kind) {
             int amount = 0;
             for (int number = 0; number < POOL; number++) {
-                amount += pool[number].kind == kind && isHeld(number) ? 1 : 0;
+                amount += pool[number].kind == kind && firstHolder(number) != NONE ? 1 : 0;
             }
             return amount;
         }
@@ -1246,12 +1237,6 @@ public final class KindGrids {
                 return FULL;
             }
             Row made = store.freshRow(leastKind(set), length);
-            appendAll(made, g);
-            store.place(h, q, made);
-            return length;
-        }
-
-        void appendAll(Row made, int g) {
             int at = 0;
             for (int p = 0; p < store.places[g]; p++) {
                 Row row = store.rowAt(g, p);
@@ -1260,6 +1245,8 @@ public final class KindGrids {
                     at += row.length;
                 }
             }
+            store.place(h, q, made);
+            return length;
         }
 
         int dealOut(int g, int p, int w, int h) {

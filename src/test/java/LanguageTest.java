@@ -58,8 +58,9 @@ public final class LanguageTest {
             if (!Modifier.isPrivate(m.getModifiers())) {
                 complain(!Modifier.isPublic(m.getModifiers()) || Modifier.isStatic(m.getModifiers()),
                         m + " is not of the face");
-                found.add(m.getReturnType() + " " + m.getName() + "("
-                        + Arrays.stream(m.getParameterTypes()).map(Class::getName).collect(Collectors.joining(",")) + ")");
+                String types = Arrays.stream(m.getParameterTypes()).map(Class::getName)
+                        .collect(Collectors.joining(","));
+                found.add(m.getReturnType() + " " + m.getName() + "(" + types + ")");
             }
         }
         complain(promised.size() != 54, "the document's face has " + promised.size() + " methods");

@@ -24,12 +24,12 @@ public final class ModelTest {
         "above gpAvp", "pick gpp", "flat ggp", "deal gpwg", "turn gg", "times ggg", "times ggg", "fold gyxof",
         "fold gyxof", "fold gyxof", "dot gpgpf", "dot gpgpf", "trail g", "trail g", "patch gpi", "patches g",
         "paint gpisv", "paint gpisv", "block g", "block g", "lies ggx", "lies ggx", "type l", "clear ", "plan ",
-        "least kk", "fits ck", "sees cb", "forget ", "left ", "next ", "keep m", "back m", "told ", "first ", "passed ",
-        "refusals e", "count u", "kinds k", "digest "};
+        "least kk", "fits ck", "sees cb", "forget ", "left ", "next ", "keep m", "back m", "told ", "first ",
+        "passed ", "refusals e", "count u", "kinds k", "digest "};
     private static final String[] STEPS = {"row gpkn", "drop g", "swap gpgp", "share gpgp", "cut gpinp", "cast gpk",
         "join gpp", "flip gp", "roll gpn", "order gp", "add gpPn", "flat ggp", "deal gpwg", "turn gg"};
-    private static final long[] LONGS = {0, 1, -1, 2, 3, 8, 16, 24, -8, 127, 128, 255, 256, 65535, 65536, 32768, 16777217,
-        134217728, Integer.MAX_VALUE, Integer.MIN_VALUE, 1L << 53, (1L << 53) + 1, 1L << 56, (1L << 56) + 8,
+    private static final long[] LONGS = {0, 1, -1, 2, 3, 8, 16, 24, -8, 127, 128, 255, 256, 65535, 65536, 32768,
+        16777217, 134217728, Integer.MAX_VALUE, Integer.MIN_VALUE, 1L << 53, (1L << 53) + 1, 1L << 56, (1L << 56) + 8,
         18014399583223809L, 1L << 62, Long.MAX_VALUE, Long.MIN_VALUE};
     private static final int[] STRAYS = {-1, -2, 4, 6, 7, 9, 12, 13, 99, Integer.MAX_VALUE, Integer.MIN_VALUE};
 
@@ -121,7 +121,8 @@ public final class ModelTest {
         long grid = 0;
         for (int k = 0; k < chosen.length; k++) {
             char letter = letters.charAt(k);
-            chosen[k] = random.nextInt(40) == 0 && letter != 'v' ? STRAYS[random.nextInt(STRAYS.length)] : choose(letter);
+            boolean strays = random.nextInt(40) == 0 && letter != 'v';
+            chosen[k] = strays ? STRAYS[random.nextInt(STRAYS.length)] : choose(letter);
             if (letter == 'g') {
                 chosen[k] = random.nextInt(8) > 0 ? likelyGrid(chosen[k]) : chosen[k];
                 grid = chosen[k];

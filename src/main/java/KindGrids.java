@@ -1491,7 +1491,7 @@ public final class KindGrids {
     /** Paths, blocks and occurrences. */
     private static final class Searches {
         /** Below every sum of a path, which has six ints at most. */
-        static final long NO_PATH = Long.MIN_VALUE;
+        static final long NO_PATH = -(1L << 60);
 
         final Store store;
         final Notes notes;

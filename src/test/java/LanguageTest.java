@@ -23,6 +23,7 @@ public final class LanguageTest {
     private static final List<String> FORBIDDEN = List.of("->", "::", "\\bthrow\\b", "\\bcatch\\b", "\\btry\\b",
             "\\bfinally\\b", "\\bsynchronized\\b", "\\bassert\\b", "Exact\\b", "\\bimport (?!java\\.util\\.Arrays;)",
             "\\bpackage\\b", "\\bstatic \\{", "\\bSystem\\.(?!arraycopy)", "\\bhashCode\\b", "\\btoString\\b", "NaN",
+            "M(AX|IN)_VALUE",
             "\" \\+|\\+ \"");
 
     private static int wrong = 0;

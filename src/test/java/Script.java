@@ -1,3 +1,4 @@
+import java.lang.reflect.InvocationTargetException;
 import java.lang.reflect.Method;
 import java.util.ArrayList;
 import java.util.Arrays;
@@ -18,6 +19,8 @@ final class Script {
             + "(-?\\w+)|plan \"([^\"]*)\"\\s*=\\s*(-?\\w+))\\s*(?:;|$)");
     /** The document promises nothing about an object after so many calls. */
     private static final int MOST_CALLS = 512;
+    /** Stands for the answer of a call that threw; no call is due to answer so. */
+    private static final long NO_ANSWER = Long.MIN_VALUE + 99;
     private static final int[] CODES = {-1, -2, -3, -4, -5, -6, -7, -8, -10};
     private static final Set<String> UNCOUNTED = Set.of("count", "kinds", "refusals");
     private static final Set<String> MAY_ANSWER_NONE = Set.of("find", "trail", "block", "lies", "next");
@@ -162,7 +165,12 @@ final class Script {
         callsOfObject++;
         seen = null;
         methods.add(name);
-        return ((Number) method.invoke(x, arguments)).longValue();
+        try {
+            return ((Number) method.invoke(x, arguments)).longValue();
+        } catch (InvocationTargetException e) {
+            faults.add(name + "(" + list + ") threw " + e.getCause());
+            return NO_ANSWER;
+        }
     }
 
     private void type(String text) {
